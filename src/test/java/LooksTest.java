@@ -1,0 +1,374 @@
+/** Promises 10 to 15: what there is. */
+public final class LooksTest {
+    private static final Checks CHECKS = new Checks("LooksTest");
+
+    public static void main(String[] args) {
+        endAlone();
+        endHow();
+        endLinesAndCrossings();
+        endRefuses();
+        panel();
+        panelRefuses();
+        fold();
+        hand();
+        lineThatEnds();
+        lineThatWinds();
+        lineLoops();
+        linesInTheirOrder();
+        lineRefuses();
+        count();
+        countCrossings();
+        countLongest();
+        countFromTopToBottom();
+        countRefuses();
+        nothingChanges();
+        CHECKS.close();
+    }
+
+    // Promise 10
+    private static void endAlone() {
+        FoldedStrips strips = new FoldedStrips();
+        strips.join(2, 3, 20);
+        CHECKS.due("end: other", 20, strips.end(2, 3, 0));
+        CHECKS.due("end: other, back", 3, strips.end(2, 20, 0));
+        CHECKS.due("end: other without a stroke", -6, strips.end(2, 4, 0));
+        CHECKS.due("end: how, without a stroke", 0, strips.end(2, 4, 1));
+        CHECKS.due("end: line without a stroke", -6, strips.end(2, 4, 2));
+        CHECKS.due("end: crossings without a stroke", -6, strips.end(2, 4, 3));
+        CHECKS.due("end: crossings of a stroke alone", 0, strips.end(2, 3, 3));
+        strips.join(5, 23, 12);
+        CHECKS.due("end: the last end of all", 12, strips.end(5, 23, 0));
+    }
+
+    private static void endHow() {
+        FoldedStrips strips = new FoldedStrips();
+        strips.join(0, 5, 17);
+        strips.join(1, 5, 6);
+        strips.join(5, 0, 12);
+        CHECKS.due("end: free at the top", 3, strips.end(0, 5, 1));
+        CHECKS.due("end: an open one at the top", 0, strips.end(0, 4, 1));
+        CHECKS.due("end: meets the one below", 1, strips.end(0, 17, 1));
+        CHECKS.due("end: meets the one above", 1, strips.end(1, 5, 1));
+        CHECKS.due("end: loose, for the one above is open", 2, strips.end(1, 6, 1));
+        CHECKS.due("end: the open one beside a loose one", 0, strips.end(0, 18, 1));
+        CHECKS.due("end: loose at the last panel's upper edge", 2, strips.end(5, 0, 1));
+        CHECKS.due("end: free at the bottom", 3, strips.end(5, 12, 1));
+        CHECKS.due("end: an open one at the bottom", 0, strips.end(5, 13, 1));
+        strips.join(4, 12, 13);
+        CHECKS.due("end: loose, for the one below is open", 2, strips.end(4, 13, 1));
+        CHECKS.due("end: meets the last panel", 1, strips.end(4, 12, 1));
+    }
+
+    private static void endLinesAndCrossings() {
+        FoldedStrips strips = new FoldedStrips();
+        Strips.drawText(strips, 3, 0, "a|l;l|a;f^h;g|g;b_c");
+        CHECKS.due("end: a line by its lesser end", 0, strips.end(3, 23, 2));
+        CHECKS.due("end: the next line", 1, strips.end(3, 5, 2));
+        CHECKS.due("end: the line between", 2, strips.end(3, 6, 2));
+        CHECKS.due("end: the line of the last upper end", 3, strips.end(3, 12, 2));
+        CHECKS.due("end: the line of a lower stroke", 4, strips.end(3, 14, 2));
+        CHECKS.due("end: crossings of a long one", 2, strips.end(3, 0, 3));
+        CHECKS.due("end: crossings of the other long one", 2, strips.end(3, 11, 3));
+        CHECKS.due("end: crossings of an arc", 1, strips.end(3, 7, 3));
+        CHECKS.due("end: crossings of what goes through it", 3, strips.end(3, 18, 3));
+        CHECKS.due("end: crossings of a low arc", 0, strips.end(3, 13, 3));
+        strips.join(4, 14, 13);
+        CHECKS.due("end: another panel's strokes do not cross", 0, strips.end(4, 13, 3));
+    }
+
+    private static void endRefuses() {
+        FoldedStrips strips = new FoldedStrips();
+        strips.join(5, 0, 12);
+        CHECKS.due("end: panel 6", -1, strips.end(6, 0, 9));
+        CHECKS.due("end: panel -1", -1, strips.end(-1, 0, 0));
+        CHECKS.due("end: end 24", -1, strips.end(0, 24, 9));
+        CHECKS.due("end: end -1", -1, strips.end(5, -1, 0));
+        CHECKS.due("end: what 4", -2, strips.end(5, 0, 4));
+        CHECKS.due("end: what -1", -2, strips.end(5, 0, -1));
+        CHECKS.due("end: what 4, without a stroke", -2, strips.end(0, 0, 4));
+        CHECKS.due("end: what -1, without a stroke", -2, strips.end(0, 0, -1));
+        for (int out : Strips.FAR_OUT) {
+            CHECKS.due("end: panel " + out, -1, strips.end(out, 0, 0));
+            CHECKS.due("end: end " + out, -1, strips.end(0, out, 0));
+            CHECKS.due("end: what " + out, -2, strips.end(0, 0, out));
+        }
+    }
+
+    // Promise 11
+    private static void panel() {
+        FoldedStrips strips = new FoldedStrips();
+        Strips.drawText(strips, 1, 4, "a|c;c|a;d^f;e^g;k_l;l|h");
+        Strips.drawText(strips, 0, 4, "a|a;b|b;c_d");
+        Strips.drawText(strips, 2, 3, "k^l;h|h");
+        CHECKS.due("panel: strokes", 6, strips.panel(1, 0));
+        CHECKS.due("panel: hand", 4, strips.panel(1, 1));
+        CHECKS.due("panel: upper columns", 0b100001111101, strips.panel(1, 2));
+        CHECKS.due("panel: lower columns", 0b110010000101, strips.panel(1, 3));
+        CHECKS.due("panel: pairs that cross", 2, strips.panel(1, 4));
+        CHECKS.due("panel: loose ends", 6, strips.panel(1, 5));
+        CHECKS.due("panel: lines", 5, strips.panel(1, 6));
+        CHECKS.due("panel: strokes down", 3, strips.panel(1, 7));
+        CHECKS.due("panel: loose ends, not free ones", 1, strips.panel(0, 5));
+        CHECKS.due("panel: lines ahead", 3, strips.panel(0, 6));
+        CHECKS.due("panel: an empty one", 0, strips.panel(4, 0) + strips.panel(4, 2) + strips.panel(4, 3)
+            + strips.panel(4, 4) + strips.panel(4, 5) + strips.panel(4, 6) + strips.panel(4, 7));
+        CHECKS.due("panel: the hand of an empty one", 5, strips.panel(5, 1));
+        Strips.drawText(strips, 5, 0, "a|l;b|k;c|j;d|i;e|h;f|g;g|f;h|e;i|d;j|c;k|b;l|a");
+        CHECKS.due("panel: all cross", 66, strips.panel(5, 4));
+        CHECKS.due("panel: all are loose above, none below", 12, strips.panel(5, 5));
+        CHECKS.due("panel: all columns above", 4095, strips.panel(5, 2));
+        CHECKS.due("panel: all columns below", 4095, strips.panel(5, 3));
+        CHECKS.due("panel: all are down", 12, strips.panel(5, 7));
+    }
+
+    private static void panelRefuses() {
+        FoldedStrips strips = new FoldedStrips();
+        CHECKS.due("panel: 6", -1, strips.panel(6, 8));
+        CHECKS.due("panel: -1", -1, strips.panel(-1, 0));
+        CHECKS.due("panel: what 8", -2, strips.panel(5, 8));
+        CHECKS.due("panel: what -1", -2, strips.panel(0, -1));
+        for (int out : Strips.FAR_OUT) {
+            CHECKS.due("panel: " + out, -1, strips.panel(out, 0));
+            CHECKS.due("panel: what " + out, -2, strips.panel(0, out));
+        }
+    }
+
+    // Promise 12
+    private static void fold() {
+        FoldedStrips strips = new FoldedStrips();
+        Strips.drawText(strips, 4, 0, "a|a;b_l;c^d");
+        Strips.drawText(strips, 5, 0, "b^c;k^l;a|e");
+        CHECKS.due("fold: marks", 0b100000000011, strips.fold(4, 0));
+        CHECKS.due("fold: meet", 0b100000000011, strips.fold(4, 1));
+        CHECKS.due("fold: faults of the kind 0", 0, strips.fold(4, 2));
+        CHECKS.due("fold: faults of the kind 1", 0b010000000100, strips.fold(4, 3));
+        strips.rub(5, 0);
+        CHECKS.due("fold: marks do not go by the panel below", 0b100000000011, strips.fold(4, 0));
+        CHECKS.due("fold: fewer meet", 0b100000000010, strips.fold(4, 1));
+        CHECKS.due("fold: a mark that was not taken up", 1, strips.fold(4, 2));
+        CHECKS.due("fold: the one ahead, marks", 0, strips.fold(3, 0));
+        CHECKS.due("fold: the one ahead, meet", 0, strips.fold(3, 1));
+        CHECKS.due("fold: the one ahead, kind 0", 0, strips.fold(3, 2));
+        CHECKS.due("fold: the one ahead, kind 1", 0b1101, strips.fold(3, 3));
+        CHECKS.due("fold: 5", -1, strips.fold(5, 4));
+        CHECKS.due("fold: -1", -1, strips.fold(-1, 0));
+        CHECKS.due("fold: what 4", -2, strips.fold(4, 4));
+        CHECKS.due("fold: what -1", -2, strips.fold(0, -1));
+        for (int out : Strips.FAR_OUT) {
+            CHECKS.due("fold: " + out, -1, strips.fold(out, 0));
+            CHECKS.due("fold: what " + out, -2, strips.fold(0, out));
+        }
+    }
+
+    // Promise 13
+    private static void hand() {
+        FoldedStrips strips = new FoldedStrips();
+        Strips.drawText(strips, 0, 2, "a_b;c_d");
+        Strips.drawText(strips, 1, 3, "a^e;f|f;g|g");
+        Strips.drawText(strips, 4, 2, "a^b;c_d;e|e");
+        CHECKS.due("hand: panels", 0b010101, strips.hand(2, 0));
+        CHECKS.due("hand: strokes", 5, strips.hand(2, 1));
+        CHECKS.due("hand: faults", 5, strips.hand(2, 2));
+        CHECKS.due("hand: faults of the kind 1", 3, strips.hand(2, 3));
+        CHECKS.due("hand: panels of another", 0b001010, strips.hand(3, 0));
+        CHECKS.due("hand: strokes of another", 3, strips.hand(3, 1));
+        CHECKS.due("hand: faults of another", 6, strips.hand(3, 2));
+        CHECKS.due("hand: faults of another of the kind 1", 3, strips.hand(3, 3));
+        CHECKS.due("hand: one without panels", 0, strips.hand(0, 0) + strips.hand(0, 1) + strips.hand(0, 2));
+        CHECKS.due("hand: marks that it left, not its own strokes", 3, strips.hand(5, 2));
+        CHECKS.due("hand: none of them of the kind 1", 0, strips.hand(5, 3));
+        CHECKS.due("hand: 6", -1, strips.hand(6, 4));
+        CHECKS.due("hand: -1", -1, strips.hand(-1, 0));
+        CHECKS.due("hand: what 4", -2, strips.hand(5, 4));
+        CHECKS.due("hand: what -1", -2, strips.hand(0, -1));
+        for (int out : Strips.FAR_OUT) {
+            CHECKS.due("hand: " + out, -1, strips.hand(out, 0));
+            CHECKS.due("hand: what " + out, -2, strips.hand(0, out));
+        }
+    }
+
+    private static void line(FoldedStrips strips, int line, int... want) {
+        for (int what = 0; what < want.length; what++) {
+            CHECKS.due("line " + line + ", " + what, want[what], strips.line(line, what));
+        }
+    }
+
+    // Promise 14
+    private static void lineThatEnds() {
+        FoldedStrips strips = new FoldedStrips();
+        strips.join(3, 20, 5);
+        line(strips, 0, 1, 0, 0b001000, 0b001000, 77, 92);
+        Strips.drawText(strips, 2, 5, "l|f");
+        line(strips, 0, 2, 0, 0b001100, 0b101000, 59, 92);
+        strips.join(1, 23, 12);
+        line(strips, 0, 3, 0, 0b001110, 0b101010, 36, 92);
+        strips.exchange(0, 1);
+        line(strips, 0, 1, 0, 0b000001, 0b000010, 12, 23);
+        line(strips, 1, 2, 0, 0b001100, 0b101000, 59, 92);
+    }
+
+    private static void lineThatWinds() {
+        FoldedStrips strips = new FoldedStrips();
+        // Down and up again at each fold: it begins and ends at the upper edge of the panel 0.
+        Strips.drawText(strips, 0, 0, "a|a;b_c;d|d");
+        Strips.drawText(strips, 1, 0, "a^b;c^d");
+        line(strips, 0, 5, 0, 0b000011, 0b000001, 0, 3);
+        CHECKS.due("line: one alone", 1, strips.count(1));
+        Strips.drawText(strips, 4, 1, "a_b;c|d");
+        Strips.drawText(strips, 5, 2, "b|l;a|k;d|j");
+        line(strips, 1, 2, 0, 0b110000, 0b000110, 98, 141);
+        line(strips, 2, 3, 0, 0b110000, 0b000110, 142, 143);
+        CHECKS.due("line: numbered by the first stroke", 1, strips.end(5, 21, 2));
+        CHECKS.due("line: not by the own stroke", 2, strips.end(5, 0, 2));
+    }
+
+    private static void lineLoops() {
+        FoldedStrips strips = new FoldedStrips();
+        strips.join(1, 12, 23);
+        strips.join(2, 0, 11);
+        line(strips, 0, 2, 1, 0b000110, 0b000110, -6, -6);
+        strips.rub(2, 0);
+        Strips.drawText(strips, 2, 5, "a|b;l|c");
+        line(strips, 0, 3, 0, 0b000110, 0b100010, 61, 62);
+        Strips.drawText(strips, 3, 1, "b^c");
+        line(strips, 0, 4, 1, 0b001110, 0b100010, -6, -6);
+        CHECKS.due("line: a loop at another place", 1, Strips.drawText(strips, 0, 0, "a_b"));
+        CHECKS.due("line: not a loop, for the ends are loose", 0, strips.line(0, 1));
+        line(strips, 1, 4, 1, 0b001110, 0b100010, -6, -6);
+    }
+
+    private static void linesInTheirOrder() {
+        FoldedStrips strips = new FoldedStrips();
+        Strips.drawText(strips, 2, 0, "l|a;b_c");
+        Strips.drawText(strips, 0, 0, "c_d;b|l;a^e");
+        strips.join(1, 11, 23);
+        line(strips, 0, 1, 0, 1, 1, 0, 4);
+        line(strips, 1, 3, 0, 0b000111, 0b000011, 1, 60);
+        line(strips, 2, 1, 0, 1, 1, 14, 15);
+        line(strips, 3, 1, 0, 0b000100, 1, 61, 62);
+        CHECKS.due("line: four", 4, strips.count(1));
+    }
+
+    private static void lineRefuses() {
+        FoldedStrips strips = new FoldedStrips();
+        CHECKS.due("line: none at all", -1, strips.line(0, 0));
+        CHECKS.due("line: none, what 6", -1, strips.line(0, 6));
+        strips.join(0, 0, 1);
+        CHECKS.due("line: 0", 1, strips.line(0, 0));
+        CHECKS.due("line: 1", -1, strips.line(1, 6));
+        CHECKS.due("line: -1", -1, strips.line(-1, 0));
+        CHECKS.due("line: what 6", -2, strips.line(0, 6));
+        CHECKS.due("line: what -1", -2, strips.line(0, -1));
+        for (int out : Strips.FAR_OUT) {
+            CHECKS.due("line: " + out, -1, strips.line(out, 0));
+            CHECKS.due("line: what " + out, -2, strips.line(0, out));
+        }
+    }
+
+    // Promise 15
+    private static void count() {
+        FoldedStrips strips = new FoldedStrips();
+        Strips.drawText(strips, 0, 0, "a|a;b|c;c|b;g_h");
+        Strips.drawText(strips, 1, 0, "a|a;d^e;g^h");
+        Strips.drawText(strips, 5, 0, "a|a;c_d;e^f");
+        Strips.putText(strips, "a|b;c");
+        int[] want = {10, 8, 1, 8, 6, 8, 1, 2, 0, 5, 3};
+        for (int what = 0; what < want.length; what++) {
+            CHECKS.due("count " + what, want[what], strips.count(what));
+        }
+    }
+
+    private static void countCrossings() {
+        FoldedStrips strips = new FoldedStrips();
+        strips.join(0, 0, 13);
+        strips.join(0, 1, 12);
+        CHECKS.due("count: strokes down that cross", 1, strips.count(6));
+        strips.join(0, 2, 14);
+        CHECKS.due("count: one beside them", 1, strips.count(6));
+        strips.join(3, 12, 14);
+        strips.join(3, 13, 15);
+        CHECKS.due("count: arcs below that cross", 2, strips.count(6));
+        strips.join(4, 0, 3);
+        strips.join(4, 1, 2);
+        CHECKS.due("count: an arc within an arc", 2, strips.count(6));
+        strips.join(5, 0, 3);
+        strips.join(5, 12, 15);
+        CHECKS.due("count: arcs at both edges", 2, strips.count(6));
+        strips.join(5, 1, 13);
+        CHECKS.due("count: one through both", 4, strips.count(6));
+        strips.join(5, 11, 23);
+        CHECKS.due("count: one that goes by", 4, strips.count(6));
+    }
+
+    private static void countLongest() {
+        FoldedStrips strips = new FoldedStrips();
+        strips.join(0, 5, 6);
+        CHECKS.due("count: one stroke", 1, strips.count(7));
+        strips.join(2, 12, 13);
+        strips.join(3, 0, 12);
+        strips.join(3, 1, 13);
+        CHECKS.due("count: three strokes", 3, strips.count(7));
+        strips.join(4, 0, 1);
+        CHECKS.due("count: a loop counts too", 4, strips.count(7));
+        CHECKS.due("count: loops", 1, strips.count(2));
+        CHECKS.due("count: lines", 2, strips.count(1));
+    }
+
+    private static void countFromTopToBottom() {
+        FoldedStrips strips = new FoldedStrips();
+        for (int panel = 0; panel < 6; panel++) {
+            for (int column = 0; column < 12; column++) {
+                strips.join(panel, column, 23 - column);
+            }
+        }
+        CHECKS.due("count: all strokes", 72, strips.count(0));
+        CHECKS.due("count: all lines", 12, strips.count(1));
+        CHECKS.due("count: all from top to bottom", 12, strips.count(8));
+        CHECKS.due("count: all are long", 6, strips.count(7));
+        CHECKS.due("count: all ends outside are free", 24, strips.count(4));
+        CHECKS.due("count: none is loose", 0, strips.count(3));
+        CHECKS.due("count: all pairs cross", 396, strips.count(6));
+        strips.rub(5, 0);
+        CHECKS.due("count: one ends ahead", 11, strips.count(8));
+        strips.rub(0, 3);
+        CHECKS.due("count: one begins later", 10, strips.count(8));
+        strips.rub(0, 4);
+        strips.rub(0, 5);
+        strips.join(0, 4, 5);
+        CHECKS.due("count: up at the top", 8, strips.count(8));
+        strips.rub(5, 10);
+        strips.rub(5, 11);
+        strips.join(5, 12, 13);
+        CHECKS.due("count: down at the bottom", 6, strips.count(8));
+        strips.clear(3);
+        CHECKS.due("count: none through an empty panel", 0, strips.count(8));
+    }
+
+    private static void countRefuses() {
+        FoldedStrips strips = new FoldedStrips();
+        CHECKS.due("count: 11", -2, strips.count(11));
+        CHECKS.due("count: -1", -2, strips.count(-1));
+        for (int out : Strips.FAR_OUT) {
+            CHECKS.due("count: " + out, -2, strips.count(out));
+        }
+    }
+
+    private static void nothingChanges() {
+        FoldedStrips strips = new FoldedStrips();
+        Strips.drawText(strips, 0, 5, "a|a;b|c;c|b;g_h");
+        Strips.drawText(strips, 1, 4, "a|a;d^e;g^h");
+        Strips.putText(strips, "a|");
+        var before = Strips.everything(strips);
+        for (int number = -1; number <= 24; number++) {
+            for (int what = -1; what <= 11; what++) {
+                strips.end(1, number, what);
+                strips.panel(number, what);
+                strips.fold(number, what);
+                strips.hand(number, what);
+                strips.line(number, what);
+                strips.count(what);
+            }
+        }
+        CHECKS.holds("to look changes nothing", Strips.everything(strips).equals(before));
+    }
+}
