@@ -277,12 +277,12 @@ public final class FoldedStrips {
             case 10:
                 return history.size();
             default:
+                lines.trace(strip);
                 return countOfLines(what);
         }
     }
 
     private int countOfLines(int what) {
-        lines.trace(strip);
         switch (what) {
             case 1:
                 return lines.size();
@@ -507,7 +507,7 @@ public final class FoldedStrips {
         }
 
         boolean hasStroke(int place) {
-            return otherEnd(place) != NOWHERE;
+            return isPlace(place) && others[place] != NOWHERE;
         }
 
         int otherPlace(int place) {

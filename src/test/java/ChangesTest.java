@@ -16,6 +16,7 @@ public final class ChangesTest {
         turn();
         exchange();
         takeUp();
+        takeUpAtTheEdges();
         takeUpWithTakenEnds();
         CHECKS.close();
     }
@@ -329,6 +330,17 @@ public final class ChangesTest {
             CHECKS.due("takeUp: panel " + out, -1, strips.takeUp(out));
         }
         unchanged("takeUp", strips, before);
+    }
+
+    private static void takeUpAtTheEdges() {
+        FoldedStrips strips = new FoldedStrips();
+        strips.join(2, 12, 23);
+        CHECKS.due("takeUp: the first column and the last one", 2, strips.takeUp(3));
+        CHECKS.due("takeUp: the first column", 12, strips.end(3, 0, 0));
+        CHECKS.due("takeUp: the last column", 23, strips.end(3, 11, 0));
+        CHECKS.due("takeUp: on to the next panel", 2, strips.takeUp(4));
+        CHECKS.due("takeUp: not over an empty panel", 0, strips.takeUp(1));
+        CHECKS.due("takeUp: all strokes", 5, strips.count(0));
     }
 
     private static void takeUpWithTakenEnds() {

@@ -8,6 +8,7 @@ public final class LooksTest {
         endLinesAndCrossings();
         endRefuses();
         panel();
+        panelByItself();
         panelRefuses();
         fold();
         hand();
@@ -19,7 +20,11 @@ public final class LooksTest {
         count();
         countCrossings();
         countLongest();
+        countFreeEnds();
+        countManyLines();
         countFromTopToBottom();
+        countLinesThatJustPassBy();
+        countAfterLinesAreGone();
         countRefuses();
         nothingChanges();
         CHECKS.close();
@@ -121,6 +126,30 @@ public final class LooksTest {
         CHECKS.due("panel: all are down", 12, strips.panel(5, 7));
     }
 
+    private static void panelByItself() {
+        FoldedStrips strips = new FoldedStrips();
+        strips.join(2, 12, 14);
+        CHECKS.due("panel: an arc at the first lower end is not down", 0, strips.panel(2, 7));
+        CHECKS.due("panel: its loose ends", 2, strips.panel(2, 5));
+        strips.join(1, 3, 5);
+        strips.join(1, 4, 6);
+        strips.join(3, 1, 3);
+        CHECKS.due("panel: no loose end of the next one", 2, strips.panel(2, 5));
+        Strips.drawText(strips, 3, 3, "a^c;b^d");
+        CHECKS.due("panel: no pair of the next one", 0, strips.panel(2, 4));
+        CHECKS.due("panel: the pair of the next one", 1, strips.panel(3, 4));
+        CHECKS.due("panel: the pair of the one ahead", 1, strips.panel(1, 4));
+        strips.clear(2);
+        CHECKS.due("panel: an empty one has no loose ends", 0, strips.panel(2, 5));
+        CHECKS.due("panel: an empty one has no pairs", 0, strips.panel(2, 4));
+        CHECKS.due("panel: an empty one has none down", 0, strips.panel(2, 7));
+        Strips.drawText(strips, 2, 2, "c^e;d^f");
+        Strips.drawText(strips, 3, 3, "a|l;b|k;c|j");
+        CHECKS.due("panel: one pair alone", 1, strips.panel(2, 4));
+        CHECKS.due("panel: three pairs", 3, strips.panel(3, 4));
+        CHECKS.due("panel: of both", 1, strips.end(2, 2, 3));
+    }
+
     private static void panelRefuses() {
         FoldedStrips strips = new FoldedStrips();
         CHECKS.due("panel: 6", -1, strips.panel(6, 8));
@@ -177,6 +206,11 @@ public final class LooksTest {
         CHECKS.due("hand: one without panels", 0, strips.hand(0, 0) + strips.hand(0, 1) + strips.hand(0, 2));
         CHECKS.due("hand: marks that it left, not its own strokes", 3, strips.hand(5, 2));
         CHECKS.due("hand: none of them of the kind 1", 0, strips.hand(5, 3));
+        strips.join(4, 3, 5);
+        CHECKS.due("hand: faults of who drew below", 7, strips.hand(2, 2));
+        CHECKS.due("hand: they are of the kind 1", 5, strips.hand(2, 3));
+        CHECKS.due("hand: not of who drew above", 6, strips.hand(3, 2));
+        CHECKS.due("hand: nor of the kind 1", 3, strips.hand(3, 3));
         CHECKS.due("hand: 6", -1, strips.hand(6, 4));
         CHECKS.due("hand: -1", -1, strips.hand(-1, 0));
         CHECKS.due("hand: what 4", -2, strips.hand(5, 4));
@@ -312,6 +346,45 @@ public final class LooksTest {
         CHECKS.due("count: a loop counts too", 4, strips.count(7));
         CHECKS.due("count: loops", 1, strips.count(2));
         CHECKS.due("count: lines", 2, strips.count(1));
+        FoldedStrips winding = new FoldedStrips();
+        Strips.drawText(winding, 0, 0, "a_b;c_d;e_f;g_h;i_j;k_l");
+        for (int panel = 1; panel <= 4; panel++) {
+            Strips.drawText(winding, panel, 0, "a|a;b|b;c|c;d|d;e|e;f|f;g|g;h|h;i|i;j|j;k|k;l|l");
+        }
+        Strips.drawText(winding, 5, 1, "b^c;d^e;f^g;h^i;j^k");
+        CHECKS.due("count: a line through all but two ends", 59, winding.count(7));
+        CHECKS.due("count: it is alone", 1, winding.count(1));
+        line(winding, 0, 59, 0, 0b111111, 0b000011, 108, 119);
+        winding.join(5, 0, 11);
+        CHECKS.due("count: a loop through all ends", 60, winding.count(7));
+        line(winding, 0, 60, 1, 0b111111, 0b000011, -6, -6);
+    }
+
+    private static void countFreeEnds() {
+        FoldedStrips strips = new FoldedStrips();
+        strips.join(0, 0, 1);
+        CHECKS.due("count: free ends at the top", 2, strips.count(4));
+        strips.join(0, 12, 13);
+        CHECKS.due("count: not at the first fold", 2, strips.count(4));
+        strips.join(5, 2, 3);
+        strips.join(5, 4, 5);
+        CHECKS.due("count: not at the last fold", 2, strips.count(4));
+        strips.join(5, 6, 18);
+        CHECKS.due("count: free ends at the bottom", 3, strips.count(4));
+        CHECKS.due("count: loose ends beside them", 7, strips.count(3));
+    }
+
+    private static void countManyLines() {
+        FoldedStrips strips = new FoldedStrips();
+        for (int panel = 0; panel < 6; panel++) {
+            Strips.drawText(strips, panel, panel, "a^b;c^d;e^f;g^h;i^j;k^l;a_b;c_d;e_f;g_h;i_j;k_l".substring(0,
+                panel % 2 == 0 || panel == 5 ? 47 : 23));
+        }
+        CHECKS.due("count: strokes", 60, strips.count(0));
+        CHECKS.due("count: as many lines as can be", 42, strips.count(1));
+        CHECKS.due("count: loops", 18, strips.count(2));
+        line(strips, 41, 1, 0, 0b100000, 0b100000, 142, 143);
+        CHECKS.due("line: not as many", -1, strips.line(42, 0));
     }
 
     private static void countFromTopToBottom() {
@@ -342,6 +415,46 @@ public final class LooksTest {
         CHECKS.due("count: down at the bottom", 6, strips.count(8));
         strips.clear(3);
         CHECKS.due("count: none through an empty panel", 0, strips.count(8));
+    }
+
+    private static void countLinesThatJustPassBy() {
+        FoldedStrips strips = new FoldedStrips();
+        for (int panel = 0; panel < 5; panel++) {
+            strips.join(panel, 3, 15);
+        }
+        strips.join(5, 3, 11);
+        CHECKS.due("count: from the top to the last panel's upper edge", 0, strips.count(8));
+        strips.clear(5);
+        strips.join(5, 3, 12);
+        CHECKS.due("count: to the first lower end", 1, strips.count(8));
+        strips.clear(0);
+        strips.join(0, 12, 15);
+        CHECKS.due("count: from the first panel's lower edge", 0, strips.count(8));
+        strips.clear(0);
+        strips.join(0, 11, 15);
+        CHECKS.due("count: from the last upper end", 1, strips.count(8));
+    }
+
+    private static void countAfterLinesAreGone() {
+        FoldedStrips strips = new FoldedStrips();
+        strips.join(0, 12, 13);
+        strips.join(1, 0, 1);
+        CHECKS.due("count: a loop", 1, strips.count(2));
+        strips.clear(0);
+        strips.clear(1);
+        CHECKS.due("count: no loop any more", 0, strips.count(2));
+        CHECKS.due("count: no longest line any more", 0, strips.count(7));
+        CHECKS.due("panel: no line any more", 0, strips.panel(1, 6));
+        for (int panel = 0; panel < 6; panel++) {
+            strips.join(panel, 0, 12);
+        }
+        CHECKS.due("count: one from top to bottom", 1, strips.count(8));
+        for (int panel = 0; panel < 6; panel++) {
+            strips.clear(panel);
+        }
+        CHECKS.due("count: none from top to bottom any more", 0, strips.count(8));
+        CHECKS.due("panel: none of its lines any more", 0, strips.panel(3, 6));
+        CHECKS.due("line: none any more", -1, strips.line(0, 0));
     }
 
     private static void countRefuses() {
