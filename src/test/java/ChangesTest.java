@@ -1,52 +1,19 @@
-import java.util.List;
-
-/** Promises 1 to 9: a new object, and what changes strokes. */
+/** Promises 2 to 9 in ordinary use: what changes strokes. */
 public final class ChangesTest {
     private static final Checks CHECKS = new Checks("ChangesTest");
 
     public static void main(String[] args) {
-        aNewObject();
         draw();
-        drawRefuses();
         join();
         rub();
         clear();
         slide();
-        slideBeyondTheEdge();
         turn();
         exchange();
         takeUp();
         takeUpAtTheEdges();
         takeUpWithTakenEnds();
         CHECKS.close();
-    }
-
-    /** The call that answered an error has left everything as it was. */
-    private static void unchanged(String call, FoldedStrips strips, List<Integer> before) {
-        CHECKS.holds(call + " changes nothing", Strips.everything(strips).equals(before));
-    }
-
-    // Promise 1
-    private static void aNewObject() {
-        FoldedStrips strips = new FoldedStrips();
-        for (int panel = 0; panel < 6; panel++) {
-            CHECKS.due("new: strokes of " + panel, 0, strips.panel(panel, 0));
-            CHECKS.due("new: hand of " + panel, panel, strips.panel(panel, 1));
-            for (int end = 0; end < 24; end++) {
-                CHECKS.due("new: end " + end, -6, strips.end(panel, end, 0));
-            }
-        }
-        for (int what = 0; what <= 10; what++) {
-            CHECKS.due("new: count " + what, 0, strips.count(what));
-        }
-        CHECKS.due("new: undo", -5, strips.undo());
-        CHECKS.due("new: restore 0", -5, strips.restore(0));
-        CHECKS.due("new: restore 1", -5, strips.restore(1));
-        CHECKS.due("new: fault", 0, strips.fault());
-        CHECKS.due("new: wipe", 0, strips.wipe());
-        FoldedStrips other = new FoldedStrips();
-        strips.join(0, 0, 1);
-        CHECKS.due("new: objects do not share", 0, other.count(0));
     }
 
     // Promise 2
@@ -79,29 +46,6 @@ public final class ChangesTest {
         CHECKS.due("draw: all of them are gone", 3, strips.count(0));
     }
 
-    private static void drawRefuses() {
-        FoldedStrips strips = new FoldedStrips();
-        strips.join(0, 0, 12);
-        Strips.putText(strips, "a|");
-        List<Integer> before = Strips.everything(strips);
-        for (int out : Strips.FAR_OUT) {
-            CHECKS.due("draw: panel " + out, -1, strips.draw(out, out));
-            CHECKS.due("draw: hand " + out, -2, strips.draw(0, out));
-        }
-        CHECKS.due("draw: panel 6", -1, strips.draw(6, 0));
-        CHECKS.due("draw: panel -1", -1, strips.draw(-1, 6));
-        CHECKS.due("draw: hand 6, before the text", -2, strips.draw(0, 6));
-        CHECKS.due("draw: hand -1", -2, strips.draw(5, -1));
-        CHECKS.due("draw: a text that is not whole", -3, strips.draw(5, 5));
-        unchanged("draw", strips, before);
-        strips.wipe();
-        CHECKS.due("draw: an empty pad", -3, strips.draw(0, 0));
-        Strips.putText(strips, "a|a;a^b");
-        CHECKS.due("draw: an end with two strokes", -3, strips.draw(0, 0));
-        CHECKS.due("draw: the strokes stay", 1, strips.count(0));
-        CHECKS.due("draw: the pad stays", 7, strips.count(9));
-    }
-
     // Promise 3
     private static void join() {
         FoldedStrips strips = new FoldedStrips();
@@ -110,25 +54,6 @@ public final class ChangesTest {
         CHECKS.due("join: its end", 0, strips.end(5, 23, 0));
         CHECKS.due("join: its other end", 23, strips.end(5, 0, 0));
         CHECKS.due("join: in another panel", 1, strips.join(4, 23, 0));
-        List<Integer> before = Strips.everything(strips);
-        CHECKS.due("join: panel 6", -1, strips.join(6, 3, 4));
-        CHECKS.due("join: panel -1", -1, strips.join(-1, 3, 3));
-        CHECKS.due("join: end 24", -1, strips.join(0, 24, 0));
-        CHECKS.due("join: end -1", -1, strips.join(0, -1, -1));
-        CHECKS.due("join: other 24", -1, strips.join(0, 0, 24));
-        CHECKS.due("join: other -1", -1, strips.join(0, 0, -1));
-        CHECKS.due("join: no such end that is the same", -1, strips.join(0, 24, 24));
-        CHECKS.due("join: the same", -2, strips.join(0, 7, 7));
-        CHECKS.due("join: the same, which has a stroke", -2, strips.join(5, 23, 23));
-        CHECKS.due("join: the first one has a stroke", -5, strips.join(5, 23, 7));
-        CHECKS.due("join: the second one has a stroke", -5, strips.join(5, 7, 1));
-        CHECKS.due("join: they have the same stroke", -5, strips.join(5, 1, 2));
-        for (int out : Strips.FAR_OUT) {
-            CHECKS.due("join: panel " + out, -1, strips.join(out, 0, 1));
-            CHECKS.due("join: end " + out, -1, strips.join(0, out, 1));
-            CHECKS.due("join: other " + out, -1, strips.join(0, 1, out));
-        }
-        unchanged("join", strips, before);
         CHECKS.due("join: changes", 3, strips.count(10));
     }
 
@@ -142,19 +67,6 @@ public final class ChangesTest {
         CHECKS.due("rub: the other one too", -6, strips.end(1, 3, 0));
         CHECKS.due("rub: other strokes stay", 5, strips.end(1, 4, 0));
         CHECKS.due("rub: it is a change", 3, strips.count(10));
-        List<Integer> before = Strips.everything(strips);
-        CHECKS.due("rub: again", -5, strips.rub(1, 20));
-        CHECKS.due("rub: another panel's end", -5, strips.rub(0, 4));
-        CHECKS.due("rub: panel 6", -1, strips.rub(6, 4));
-        CHECKS.due("rub: panel -1", -1, strips.rub(-1, 4));
-        CHECKS.due("rub: end 24", -1, strips.rub(1, 24));
-        CHECKS.due("rub: end -1", -1, strips.rub(1, -1));
-        CHECKS.due("rub: the last panel's end 24", -1, strips.rub(5, 24));
-        for (int out : Strips.FAR_OUT) {
-            CHECKS.due("rub: panel " + out, -1, strips.rub(out, 0));
-            CHECKS.due("rub: end " + out, -1, strips.rub(0, out));
-        }
-        unchanged("rub", strips, before);
         CHECKS.due("rub: the other one", 4, strips.rub(1, 5));
         CHECKS.due("rub: the ends can be joined again", 1, strips.join(1, 3, 5));
     }
@@ -172,13 +84,6 @@ public final class ChangesTest {
         CHECKS.due("clear: it is a change", 4, strips.count(10));
         CHECKS.due("clear: an empty one", 0, strips.clear(3));
         CHECKS.due("clear: that is a change too", 5, strips.count(10));
-        List<Integer> before = Strips.everything(strips);
-        CHECKS.due("clear: panel 6", -1, strips.clear(6));
-        CHECKS.due("clear: panel -1", -1, strips.clear(-1));
-        for (int out : Strips.FAR_OUT) {
-            CHECKS.due("clear: panel " + out, -1, strips.clear(out));
-        }
-        unchanged("clear", strips, before);
     }
 
     // Promise 6
@@ -200,40 +105,6 @@ public final class ChangesTest {
         CHECKS.due("slide: the farthest one", 3, strips.slide(5, 11));
         CHECKS.due("slide: an empty panel is a change", 6, strips.count(10));
         CHECKS.due("slide: its hand stays", 5, strips.panel(5, 1));
-        List<Integer> before = Strips.everything(strips);
-        CHECKS.due("slide: panel 6", -1, strips.slide(6, 1));
-        CHECKS.due("slide: panel -1", -1, strips.slide(-1, 0));
-        CHECKS.due("slide: not at all", -2, strips.slide(0, 0));
-        CHECKS.due("slide: 12", -2, strips.slide(0, 12));
-        CHECKS.due("slide: -12", -2, strips.slide(0, -12));
-        for (int out : Strips.FAR_OUT) {
-            CHECKS.due("slide: panel " + out, -1, strips.slide(out, 1));
-            CHECKS.due("slide: by " + out, -2, strips.slide(0, out));
-        }
-        unchanged("slide", strips, before);
-    }
-
-    private static void slideBeyondTheEdge() {
-        FoldedStrips strips = new FoldedStrips();
-        strips.join(2, 1, 22);
-        CHECKS.due("slide: to the right edge", 2, strips.slide(2, 1));
-        List<Integer> before = Strips.everything(strips);
-        CHECKS.due("slide: the lower end beyond the right edge", -5, strips.slide(2, 1));
-        CHECKS.due("slide: the upper end beyond the left edge", -5, strips.slide(2, -3));
-        CHECKS.due("slide: by 11", -5, strips.slide(2, 11));
-        CHECKS.due("slide: by -11", -5, strips.slide(2, -11));
-        unchanged("slide", strips, before);
-        CHECKS.due("slide: to the left edge", 2, strips.slide(2, -2));
-        CHECKS.due("slide: where it is then", 21, strips.end(2, 0, 0));
-        strips.clear(2);
-        strips.join(2, 11, 12);
-        CHECKS.due("slide: the upper end beyond the right edge", -5, strips.slide(2, 1));
-        CHECKS.due("slide: the lower end beyond the left edge", -5, strips.slide(2, -1));
-        strips.clear(2);
-        strips.join(2, 0, 12);
-        CHECKS.due("slide: from edge to edge", 2, strips.slide(2, 11));
-        CHECKS.due("slide: there it is", 23, strips.end(2, 11, 0));
-        CHECKS.due("slide: and back", 2, strips.slide(2, -11));
     }
 
     // Promise 7
@@ -261,16 +132,6 @@ public final class ChangesTest {
         CHECKS.due("turn: it is a change", 5, strips.count(10));
         CHECKS.due("turn: an empty panel", 3, strips.turn(4, 1));
         CHECKS.due("turn: that is a change too", 6, strips.count(10));
-        List<Integer> before = Strips.everything(strips);
-        CHECKS.due("turn: panel 6", -1, strips.turn(6, 3));
-        CHECKS.due("turn: panel -1", -1, strips.turn(-1, 0));
-        CHECKS.due("turn: how 3", -2, strips.turn(0, 3));
-        CHECKS.due("turn: how -1", -2, strips.turn(0, -1));
-        for (int out : Strips.FAR_OUT) {
-            CHECKS.due("turn: panel " + out, -1, strips.turn(out, 0));
-            CHECKS.due("turn: how " + out, -2, strips.turn(0, out));
-        }
-        unchanged("turn", strips, before);
     }
 
     // Promise 8
@@ -292,18 +153,6 @@ public final class ChangesTest {
         CHECKS.due("exchange: empty panels", 4, strips.exchange(2, 3));
         CHECKS.due("exchange: their hands", 3, strips.panel(2, 1));
         CHECKS.due("exchange: that is a change too", 5, strips.count(10));
-        List<Integer> before = Strips.everything(strips);
-        CHECKS.due("exchange: panel 6", -1, strips.exchange(6, 0));
-        CHECKS.due("exchange: panel -1", -1, strips.exchange(-1, 0));
-        CHECKS.due("exchange: other 6", -1, strips.exchange(0, 6));
-        CHECKS.due("exchange: other -1", -1, strips.exchange(0, -1));
-        CHECKS.due("exchange: no such panel, twice", -1, strips.exchange(6, 6));
-        CHECKS.due("exchange: the same", -5, strips.exchange(4, 4));
-        for (int out : Strips.FAR_OUT) {
-            CHECKS.due("exchange: panel " + out, -1, strips.exchange(out, 0));
-            CHECKS.due("exchange: other " + out, -1, strips.exchange(0, out));
-        }
-        unchanged("exchange", strips, before);
     }
 
     // Promise 9
@@ -322,14 +171,6 @@ public final class ChangesTest {
         CHECKS.due("takeUp: the panel ahead alone counts", 0, strips.takeUp(3));
         CHECKS.due("takeUp: the last panel", 0, strips.takeUp(5));
         CHECKS.due("takeUp: strokes at the panel's own lower edge are no marks for it", 3, strips.panel(1, 0));
-        List<Integer> before = Strips.everything(strips);
-        CHECKS.due("takeUp: panel 0", -1, strips.takeUp(0));
-        CHECKS.due("takeUp: panel 6", -1, strips.takeUp(6));
-        CHECKS.due("takeUp: panel -1", -1, strips.takeUp(-1));
-        for (int out : Strips.FAR_OUT) {
-            CHECKS.due("takeUp: panel " + out, -1, strips.takeUp(out));
-        }
-        unchanged("takeUp", strips, before);
     }
 
     private static void takeUpAtTheEdges() {

@@ -21,12 +21,15 @@ public final class LanguageTest {
         "int fold(int,int)", "int hand(int,int)", "int line(int,int)", "int count(int)", "int bestSlide(int,int)",
         "int bestExchange(int)", "int ifTurned(int,int,int)", "int put(long)", "int wipe()", "int fault()",
         "int undo()", "int save(int)", "int restore(int)");
+    private static final Set<String> IMPORTS = Set.of("java.util.ArrayList", "java.util.Arrays", "java.util.Iterator",
+        "java.util.List");
+    private static final long MOST_BYTES = 1 << 20;
 
     public static void main(String[] args) throws Exception {
         faceIsTheDocuments();
         nestedClassesAreHidden();
         wordsAreAllowed();
-        callsMakeNothing();
+        callsMakeLittle();
         CHECKS.close();
     }
 
@@ -82,37 +85,64 @@ public final class LanguageTest {
         }
     }
 
-    private static void wordsAreAllowed() throws Exception {
+    private static String codeWithoutComments() throws Exception {
         String source = Files.readString(Path.of("src/main/java/FoldedStrips.java"));
-        String code = source.replaceAll("(?s)/\\*.*?\\*/", " ").replaceAll("//[^\n]*", " ");
-        String forbidden = "\\b(throw|throws|try|catch|synchronized|assert|package|instanceof|equals|hashCode|toString"
-            + "|Random|Thread|System\\.(?!arraycopy)\\w+|native|volatile|strictfp|\\w+Exact)\\b|->|::";
+        CHECKS.holds("signs 1 to 127 only", source.chars().allMatch(sign -> sign >= 1 && sign <= 127));
+        return source.replaceAll("(?s)/\\*.*?\\*/", " ").replaceAll("//[^\n]*", " ");
+    }
+
+    private static void wordsAreAllowed() throws Exception {
+        String code = codeWithoutComments();
+        noneOf(code, "\\b(throw|throws|try|catch|synchronized|assert|package|native|volatile|strictfp|\\w+Exact)\\b");
+        noneOf(code, "\\b(Random|Thread|System\\.(?!arraycopy)\\w+|(equals|hashCode|toString)\\([^)]*\\)\\s*\\{)");
+        // An arrow is allowed behind the cases of a switch, not as a lambda.
+        noneOf(code.replaceAll("\\b(case\\b[^;:{}]*?|default\\s*)->", " "), "->|::");
+        Matcher imports = Pattern.compile("import\\s+([^;]+);").matcher(code);
+        while (imports.find()) {
+            CHECKS.holds("an import: " + imports.group(1), IMPORTS.contains(imports.group(1)));
+        }
+    }
+
+    private static void noneOf(String code, String forbidden) {
         Matcher found = Pattern.compile(forbidden).matcher(code);
         while (found.find()) {
             CHECKS.holds("a forbidden word: " + found.group(), false);
         }
-        Matcher imports = Pattern.compile("import\\s+([^;]+);").matcher(code);
-        while (imports.find()) {
-            CHECKS.holds("an import: " + imports.group(1), imports.group(1).equals("java.util.Arrays"));
-        }
-        CHECKS.holds("signs 1 to 127 only", source.chars().allMatch(sign -> sign >= 1 && sign <= 127));
     }
 
-    private static void callsMakeNothing() {
+    /** All calls of a run share one room, so that the calls of one object may not take much of it. */
+    private static void callsMakeLittle() {
         var threads = (com.sun.management.ThreadMXBean) ManagementFactory.getThreadMXBean();
-        FoldedStrips strips = new FoldedStrips();
-        oneOfEach(strips);
         long thread = Thread.currentThread().getId();
+        mostCalls(new FoldedStrips());
+        FoldedStrips strips = new FoldedStrips();
         long before = threads.getThreadAllocatedBytes(thread);
-        for (int round = 0; round < 500; round++) {
-            oneOfEach(strips);
-        }
+        mostCalls(strips);
         long made = threads.getThreadAllocatedBytes(thread) - before;
-        CHECKS.holds("calls make no objects: " + made + " bytes", made < 4096);
+        CHECKS.holds("the calls of an object make little: " + made + " bytes", made < MOST_BYTES);
     }
 
-    private static void oneOfEach(FoldedStrips strips) {
+    /** Some 500 calls, as many as an object is used for. */
+    private static void mostCalls(FoldedStrips strips) {
+        for (int round = 0; round < 4; round++) {
+            someChanges(strips, round);
+            for (int what = 0; what < 11; what++) {
+                strips.end(1, 0, what);
+                strips.panel(1, what);
+                strips.fold(1, what);
+                strips.hand(1, what);
+                strips.line(0, what);
+                strips.count(what);
+                strips.bestSlide(1, what);
+                strips.bestExchange(what);
+                strips.ifTurned(1, 1, what);
+            }
+        }
+    }
+
+    private static void someChanges(FoldedStrips strips, int round) {
         strips.put(0x617C61);
+        strips.fault();
         strips.draw(0, 1);
         strips.join(1, 0, 12);
         strips.join(1, 1, 13);
@@ -123,19 +153,7 @@ public final class LanguageTest {
         strips.takeUp(1);
         strips.save(0);
         strips.restore(0);
-        for (int what = 0; what < 11; what++) {
-            strips.end(1, 0, what);
-            strips.panel(1, what);
-            strips.fold(1, what);
-            strips.hand(1, what);
-            strips.line(0, what);
-            strips.count(what);
-            strips.bestSlide(1, what);
-            strips.bestExchange(what);
-            strips.ifTurned(1, 1, what);
-        }
-        strips.clear(2);
-        strips.fault();
+        strips.clear(round);
         strips.wipe();
         strips.undo();
     }

