@@ -1,4 +1,3 @@
-import java.util.List;
 import java.util.function.Consumer;
 
 /** Promises 10 to 15 at their edges: end, panel, fold, hand, line, count. */
@@ -654,12 +653,7 @@ public final class EdgesOfLooksTest {
     }
 
     private static void leavesAll(String looks, Consumer<FoldedStrips> asked) {
-        List<List<Integer>> before = Strips.whole(EdgesOfLooksTest::inUse);
-        CHECKS.holds(looks, before.equals(Strips.whole(() -> {
-            FoldedStrips strips = inUse();
-            asked.accept(strips);
-            return strips;
-        })));
+        CHECKS.holds(looks, Strips.holdsTheSame(EdgesOfLooksTest::inUse, asked));
     }
 
     private static void nothingChanges() {

@@ -1,4 +1,3 @@
-import java.util.List;
 import java.util.function.Consumer;
 
 /** Promises 16 to 18 at their edges: bestSlide, bestExchange, ifTurned. */
@@ -302,12 +301,7 @@ public final class EdgesOfWhatIfTest {
     }
 
     private static void leavesAll(String looks, Consumer<FoldedStrips> asked) {
-        List<List<Integer>> before = Strips.whole(EdgesOfWhatIfTest::inUse);
-        CHECKS.holds(looks, before.equals(Strips.whole(() -> {
-            FoldedStrips strips = inUse();
-            asked.accept(strips);
-            return strips;
-        })));
+        CHECKS.holds(looks, Strips.holdsTheSame(EdgesOfWhatIfTest::inUse, asked));
     }
 
     private static void nothingChanges() {

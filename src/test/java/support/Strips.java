@@ -1,5 +1,6 @@
 import java.util.ArrayList;
 import java.util.List;
+import java.util.function.Consumer;
 import java.util.function.Supplier;
 
 /** Short ways to fill an object of FoldedStrips and to read all of it. */
@@ -100,6 +101,15 @@ final class Strips {
             all.add(undone(made.get(), many));
         }
         return all;
+    }
+
+    /** Whether an object holds the same with these calls and without them. */
+    static boolean holdsTheSame(Supplier<FoldedStrips> made, Consumer<FoldedStrips> calls) {
+        return whole(made).equals(whole(() -> {
+            FoldedStrips strips = made.get();
+            calls.accept(strips);
+            return strips;
+        }));
     }
 
     /** The strokes of the pad, as they come on a panel; a text that is only too short is ended by a letter. */
