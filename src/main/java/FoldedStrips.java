@@ -1096,21 +1096,27 @@ public final class FoldedStrips {
             return size;
         }
 
+        private Strip stateAt(int at) {
+            return at >= 0 && at < MOST_STATES ? states[at] : null;
+        }
+
         void remember(Strip strip) {
-            if (next < 0 || next >= MOST_STATES) {
+            Strip state = stateAt(next);
+            if (state == null) {
                 return;
             }
-            states[next].copyFrom(strip);
+            state.copyFrom(strip);
             next = (next + 1) % MOST_STATES;
             size = Math.min(size + 1, MOST_STATES);
         }
 
         void goBack(Strip strip) {
-            if (size == 0) {
+            int latest = (next + MOST_STATES - 1) % MOST_STATES;
+            Strip state = stateAt(latest);
+            if (state == null || size == 0) {
                 return;
             }
-            int latest = (next + MOST_STATES - 1) % MOST_STATES;
-            strip.copyFrom(states[latest]);
+            strip.copyFrom(state);
             next = latest;
             size--;
         }
@@ -1127,11 +1133,11 @@ public final class FoldedStrips {
         }
 
         boolean isKept(int slot) {
-            return isSlot(slot) && used[slot];
+            return isSlot(slot) && used[slot] && kept[slot] != null;
         }
 
         void keep(int slot, Strip strip) {
-            if (isSlot(slot)) {
+            if (isSlot(slot) && kept[slot] != null) {
                 kept[slot].copyFrom(strip);
                 used[slot] = true;
             }
