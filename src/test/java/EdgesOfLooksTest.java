@@ -642,18 +642,9 @@ public final class EdgesOfLooksTest {
 
     // ---- nothing changes
 
-    private static FoldedStrips inUse() {
-        FoldedStrips strips = Strips.drawn("a|a;b_c", "a|b;b^c", "b|l", "k_l", "", "a|a");
-        strips.save(0);
-        strips.turn(1, 1);
-        strips.save(1);
-        strips.undo();
-        Strips.putText(strips, "a|");
-        return strips;
-    }
-
     private static void leavesAll(String looks, Consumer<FoldedStrips> asked) {
-        CHECKS.holds(looks, Strips.holdsTheSame(EdgesOfLooksTest::inUse, asked));
+        CHECKS.holds(looks, Strips.holdsTheSame(
+            () -> Strips.inUse("a|a;b_c", "a|b;b^c", "b|l", "k_l", "", "a|a"), asked));
     }
 
     private static void nothingChanges() {

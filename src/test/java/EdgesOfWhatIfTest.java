@@ -5,6 +5,7 @@ public final class EdgesOfWhatIfTest {
     private static final Checks CHECKS = new Checks("EdgesOfWhatIfTest");
     private static final int NO_SUCH = -1, BAD_VALUE = -2;
     private static final int STAYS = 20;
+    private static final String[] TO_TURN = {"a|a;b_l;j_k", "a^k;b^j;l|c;d_e", "i|a;a^d;k_l", "c|a", "a_l", "k^l;a_b"};
 
     public static void main(String[] args) {
         sentencesOfBestSlide();
@@ -222,16 +223,11 @@ public final class EdgesOfWhatIfTest {
         CHECKS.sentence("ifTurned: BAD_VALUE if how or what is out of range", EdgesOfWhatIfTest::ifTurnedBadValue);
     }
 
-    private static FoldedStrips toTurn() {
-        return Strips.drawn("a|a;b_l;j_k", "a^k;b^j;l|c;d_e", "i|a;a^d;k_l", "c|a", "a_l",
-            "k^l;a_b");
-    }
-
     private static void asWhenItIsTurned() {
         for (int panel = 0; panel < 6; panel++) {
             for (int how = 0; how < 3; how++) {
-                FoldedStrips asked = toTurn();
-                FoldedStrips turned = toTurn();
+                FoldedStrips asked = Strips.drawn(TO_TURN);
+                FoldedStrips turned = Strips.drawn(TO_TURN);
                 int loose = turned.turn(panel, how);
                 String which = panel + " by " + how;
                 CHECKS.due("loose ends of " + which, loose, asked.ifTurned(panel, how, 0));
@@ -290,18 +286,8 @@ public final class EdgesOfWhatIfTest {
 
     // ---- nothing changes
 
-    private static FoldedStrips inUse() {
-        FoldedStrips strips = toTurn();
-        strips.save(0);
-        strips.turn(1, 1);
-        strips.save(1);
-        strips.undo();
-        Strips.putText(strips, "a|");
-        return strips;
-    }
-
     private static void leavesAll(String looks, Consumer<FoldedStrips> asked) {
-        CHECKS.holds(looks, Strips.holdsTheSame(EdgesOfWhatIfTest::inUse, asked));
+        CHECKS.holds(looks, Strips.holdsTheSame(() -> Strips.inUse(TO_TURN), asked));
     }
 
     private static void nothingChanges() {

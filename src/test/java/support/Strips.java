@@ -59,6 +59,17 @@ final class Strips {
         return drawn(text, text, text, text, text, text);
     }
 
+    /** A new object with these texts on its panels, which has its slots, its history and its pad in use, too. */
+    static FoldedStrips inUse(String... texts) {
+        FoldedStrips strips = drawn(texts);
+        strips.save(0);
+        strips.turn(1, 1);
+        strips.save(1);
+        strips.undo();
+        putText(strips, "a|");
+        return strips;
+    }
+
     static int faultOf(String text) {
         FoldedStrips strips = new FoldedStrips();
         putText(strips, text);
